@@ -114,6 +114,25 @@ final class Rig {
         return this;
     }
 
+    /** One instruction that faults, the fault being delivered anywhere. */
+    Rig raises(int number, int code) {
+        due(name + ": step(1)", x.step(1), 1);
+        due(name + ": number", x.state(NUMBER), number);
+        due(name + ": code", x.state(CODE), code);
+        due(name + ": faults", x.state(FAULTS), 1);
+        return this;
+    }
+
+    /** One instruction whose fault can't be delivered, fault 8 being delivered in its place. */
+    Rig doubles() {
+        due(name + ": step(1)", x.step(1), 1);
+        due(name + ": number", x.state(NUMBER), 8);
+        due(name + ": code", x.state(CODE), 0);
+        due(name + ": faults", x.state(FAULTS), 2);
+        due(name + ": IP of the handler", x.state(IP), 48);
+        return this;
+    }
+
     Rig state(int what, int want) {
         due(name + ": state(" + what + ")", x.state(what), want);
         return this;
