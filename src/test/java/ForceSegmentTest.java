@@ -19,6 +19,8 @@ public final class ForceSegmentTest {
             }
         }
         Rig.due("level", x.state(7), 1);
+        Rig.due("force(0, 127)", x.force(0, 127), true);
+        Rig.due("level", x.state(7), 3);
     }
 
     private static void hasNone() {

@@ -31,6 +31,9 @@ public final class LoadTest {
                 }
             }
             load(0, q, 124, 1, 0, true).goes().holds(q, 124);
+            load(0, q, 127, 1, 3, true).goes().holds(q, 127);
+            load(0, q, 128, 1, 3, true).describe(32, 600, 10, 1, 3, true).faults(13, 128);
+            load(0, q, 4, 1, 0, true).goes().holds(q, 4, 200, 60, 4, 0);
             load(0, q, 129, 1, 3, true).faults(13, 128);
             load(0, q, 65535, 1, 3, true).faults(13, 65532);
             load(0, q, 33, 1, 0, true).faults(13, 32);

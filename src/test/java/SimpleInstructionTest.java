@@ -3,6 +3,7 @@ public final class SimpleInstructionTest {
     public static void main(String[] args) {
         fetches();
         decodes();
+        lengths();
         moves();
         calculates();
         goes();
@@ -48,6 +49,30 @@ public final class SimpleInstructionTest {
         Rig.level0("Q of SET is free").code(Rig.op(1, 0, 7), 5).goes().state(Rig.A, 5);
         Rig.level0("Q of GO is free").code(Rig.op(8, 4, 7), 5).goes().state(Rig.IP, 5);
         Rig.level0("bad R before n").set(Rig.IP, 60).memory(Rig.CODE0 + 60, Rig.op(1, 5, 0)).faults(6, 0);
+    }
+
+    /** How long the operations are that go on behind themselves, with the greatest R and Q that they allow. */
+    private static void lengths() {
+        int[][] operationQLength = {
+            {0, 7, 1}, {1, 7, 2}, {2, 4, 1}, {3, 4, 1}, {4, 4, 1}, {5, 4, 1}, {6, 3, 2}, {7, 3, 2}, {9, 7, 2},
+            {11, 7, 1}, {12, 7, 1}, {14, 4, 1}, {21, 4, 1}
+        };
+        for (int[] one : operationQLength) {
+            Rig.level0("length of " + one[0]).code(Rig.op(one[0], 4, one[1]), 9).goes().state(Rig.IP, one[2]);
+        }
+        Rig.level0("length of OTHER").set(Rig.FLAGS, 1).code(Rig.op(10, 4, 7), 9).goes().state(Rig.IP, 2);
+        Rig.level0("length of LOAD").set(Rig.SP, 8).code(Rig.op(13, 4, 3)).goes().state(Rig.IP, 1);
+        Rig.level0("length of TASK").set(Rig.SP, 24).code(Rig.op(20, 4, 7)).goes().state(Rig.IP, 1).holds(Rig.TR, 24);
+        Rig.level0("end of JUMP").set(Rig.IP, 58).memory(Rig.CODE0 + 58, Rig.op(15, 4, 7), 9, 4).goes().state(Rig.IP, 9);
+        Rig.level0("end of CALL").set(Rig.IP, 58).memory(Rig.CODE0 + 58, Rig.op(16, 4, 7), 9, 4).goes().state(Rig.IP, 9)
+            .lies(Rig.STACK0 + 28, 61, 4);
+        Rig.level0("end of RETURN").set(Rig.IP, 59).memory(Rig.CODE0 + 59, Rig.op(17, 4, 7), 0)
+            .memory(Rig.STACK0 + 30, 9, 4).goes().state(Rig.IP, 9);
+        Rig.level0("end of TRAP").set(Rig.IP, 59).memory(Rig.CODE0 + 59, Rig.op(18, 4, 7), 6).goes().state(Rig.IP, 46)
+            .lies(Rig.STACK0 + 27, 61, 4);
+        Rig.level0("end of BACK").set(Rig.IP, 60).memory(Rig.CODE0 + 60, Rig.op(19, 4, 7))
+            .memory(Rig.STACK0 + 30, 9, 4, 0).goes().state(Rig.IP, 9);
+        Rig.level0("end of GO").set(Rig.IP, 59).memory(Rig.CODE0 + 59, Rig.op(8, 4, 7), 9).goes().state(Rig.IP, 9);
     }
 
     private static void moves() {
@@ -167,9 +192,9 @@ public final class SimpleInstructionTest {
             for (int wish = 0; wish < 4; wish++) {
                 for (int before : new int[] {0, 7}) {
                     int z = own < wish ? Rig.Z : 0;
-                    Rig.level0("ADJUST " + own + " by " + wish).set(Rig.A, 65532 + own).set(Rig.B, 40 + wish)
+                    Rig.level0("ADJUST " + own + " by " + wish).set(Rig.A, 65532 + own).set(Rig.B, 44 + wish)
                         .set(Rig.FLAGS, before).code(Rig.op(21, 0, 1)).goes()
-                        .state(Rig.A, 65532 + Math.max(own, wish)).state(Rig.B, 40 + wish)
+                        .state(Rig.A, 65532 + Math.max(own, wish)).state(Rig.B, 44 + wish)
                         .state(Rig.FLAGS, (before & 6) + z);
                 }
             }

@@ -57,6 +57,11 @@ public final class StepCountTest {
         Rig.due("step(1) after it", rig.x.step(1), 0);
         rig.state(Rig.HALT, 2).state(Rig.FAULTS, 4);
 
+        // Both deliveries push three words, and have no room for the code.
+        rig = Rig.level0("goes down late").code(Rig.op(30, 0, 0)).set(Rig.SP, 3).set(Rig.FLAGS, 5);
+        Rig.due("step(1)", rig.x.step(1), 0);
+        rig.state(Rig.HALT, 2).state(Rig.SP, 3).state(Rig.IP, 0).state(Rig.FLAGS, 5).lies(Rig.STACK0, 0, 0, 0);
+
         LevelMachine x = new LevelMachine();
         Rig.due("step(1) of a new object", x.step(1), 0);
         Rig.due("state(8)", x.state(8), 2);

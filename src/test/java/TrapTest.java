@@ -47,6 +47,12 @@ public final class TrapTest {
             Rig.level0("TRAP to a wrong one").describe(47, 130, 9, kind, 0, true).code(TRAP, 15).faults(13, 128);
             Rig.level0("TRAP to data").describe(47, 29, 9, kind, 0, true).code(TRAP, 15).faults(13, 28);
         }
+        Rig.level3("TRAP to data before pushing").describe(47, 28, 9, 10, 3, true).set(Rig.SP, 0).code(TRAP, 15)
+            .faults(13, 28);
+        for (int sp = 0; sp <= 2; sp++) {
+            Rig.level3("TRAP with a full stack").describe(47, 12, 9, 10, 3, true).set(Rig.SP, sp).code(TRAP, 15)
+                .faults(12, 0).lies(Rig.STACK3, 0, 0);
+        }
         Rig.level0("TRAP above the limit").describe(47, 4, 61, 10, 0, true).code(TRAP, 15).faults(13, 0);
         Rig.level0("TRAP outwards").describe(47, 12, 9, 10, 0, true).code(TRAP, 15).faults(13, 12);
     }
@@ -124,9 +130,11 @@ public final class TrapTest {
             .code(Rig.op(17, 0, 0), 0);
         rig.faults(13, 16).state(Rig.SP, 26).holds(Rig.CS, 4).holds(Rig.SS, 8).holds(Rig.DS, 8);
         // A switch that fails at its last selector, and is then delivered as if nothing had been.
-        rig = Rig.level0("a switch that fails late").code(Rig.op(16, 0, 0), 0, 24).set(Rig.A, 5).force(Rig.ES, 30);
+        rig = Rig.level0("a switch that fails late").code(Rig.op(16, 0, 0), 0, 24).set(Rig.A, 5).force(Rig.DS, 28)
+            .force(Rig.ES, 30);
         rig.memory(Rig.TASK6 + 7, 20, 7, 1, 2, 3, 4, 20, 15, 0, 36, 19).faults(13, 36);
-        rig.holds(Rig.TR, 20, 440, 40, 8, 0).holds(Rig.SS, 8).holds(Rig.ES, 30).state(Rig.A, 5).state(Rig.SP, 26);
+        rig.holds(Rig.TR, 20, 440, 40, 8, 0).holds(Rig.SS, 8, 270, 40, 2, 0).holds(Rig.DS, 28, 540, 40, 2, 3)
+            .holds(Rig.ES, 30, 540, 40, 2, 3).state(Rig.A, 5).state(Rig.SP, 26);
         rig.lies(22, 72).lies(26, 71).lies(Rig.TASK6, 0).lies(Rig.TASK5 + 7, 0, 0, 0, 0, 0, 0, 0, 0, 0, 0, 0);
         rig.state(Rig.FLAGS, 0);
     }
