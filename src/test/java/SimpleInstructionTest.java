@@ -17,8 +17,12 @@ public final class SimpleInstructionTest {
     private static void fetches() {
         Rig.level0("last word of CS").set(Rig.IP, 60).memory(Rig.CODE0 + 60, Rig.op(2, 0, 0)).goes().state(Rig.IP, 61);
         Rig.level0("behind CS").set(Rig.IP, 61).memory(Rig.CODE0 + 61, Rig.op(2, 0, 0)).faults(13, 0);
-        Rig.level0("n behind CS").set(Rig.IP, 60).memory(Rig.CODE0 + 60, Rig.op(1, 0, 0), 5).faults(13, 0);
-        Rig.level0("m behind CS").set(Rig.IP, 59).memory(Rig.CODE0 + 59, Rig.op(15, 0, 0), 5, 4).faults(13, 0);
+        for (int operation : new int[] {1, 6, 7, 8, 9, 10, 15, 16, 17, 18}) {
+            Rig.level0("n of " + operation + " behind CS").set(Rig.IP, 60)
+                .memory(Rig.CODE0 + 60, Rig.op(operation, 0, 3), 0, 4).faults(13, 0);
+        }
+        Rig.level0("m of JUMP behind CS").set(Rig.IP, 59).memory(Rig.CODE0 + 59, Rig.op(15, 0, 0), 5, 4).faults(13, 0);
+        Rig.level0("m of CALL behind CS").set(Rig.IP, 59).memory(Rig.CODE0 + 59, Rig.op(16, 0, 0), 5, 4).faults(13, 0);
         Rig.level0("no CS").force(Rig.CS, 0).faults(13, 0);
         Rig.level0("code that is not read").describe(1, Rig.CODE0, 60, 3, 0, true).force(Rig.CS, 4)
             .code(Rig.op(1, 2, 0), 9).goes().state(Rig.C, 9);
