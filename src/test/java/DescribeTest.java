@@ -36,7 +36,7 @@ public final class DescribeTest {
         Rig.due("kind -1", x.describe(1, 0, 0, -1, 0, true), false);
         Rig.due("rank 4", x.describe(1, 0, 0, 1, 4, true), false);
         Rig.due("rank -1", x.describe(1, 0, 0, 1, -1, true), false);
-        for (int a = 0; a < 640; a++) {
+        for (int a = 0; a < 4 * 48 + 4; a++) {
             Rig.due("peek(" + a + ")", x.peek(a), 0);
         }
     }

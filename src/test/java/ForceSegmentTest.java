@@ -11,6 +11,7 @@ public final class ForceSegmentTest {
     private static void takesAllKinds() {
         LevelMachine x = new LevelMachine();
         for (int kind = 1; kind <= 15; kind++) {
+            x = new LevelMachine();
             for (int q = 0; q < 5; q++) {
                 x.describe(31, 600 + kind, 65535 - kind, kind, 2, false);
                 Rig.due("force(" + q + ", 125)", x.force(q, 125), true);

@@ -2,8 +2,10 @@
 public final class NewObjectTest {
     public static void main(String[] args) {
         LevelMachine x = new LevelMachine();
+        LevelMachine y = new LevelMachine();
+        // Two of them, as an object is good for 512 calls.
         for (int a = 0; a < 640; a++) {
-            Rig.due("peek(" + a + ")", x.peek(a), 0);
+            Rig.due("peek(" + a + ")", a < 320 ? x.peek(a) : y.peek(a), 0);
         }
         for (int what = 0; what <= 11; what++) {
             Rig.due("state(" + what + ")", x.state(what), 0);

@@ -3,7 +3,8 @@ import java.util.Random;
 /** All promises: whatever is called, no call throws, answers stay in their bounds, and equal runs answer alike. */
 public final class RoughRunsTest {
     private static final int RUNS = 400;
-    private static final int CALLS = 512;
+    /** With those of inBounds no more than the 512 that an object is good for. */
+    private static final int CALLS = 500;
 
     public static void main(String[] args) {
         for (int run = 0; run < RUNS; run++) {
