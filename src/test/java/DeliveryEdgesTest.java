@@ -4,6 +4,7 @@ public final class DeliveryEdgesTest {
 
     public static void main(String[] args) {
         codesWithoutWish();
+        leavesEverything();
         eachByItsVector();
         ipOfTheInstruction();
         rankIsNotLookedAt();
@@ -31,6 +32,31 @@ public final class DeliveryEdgesTest {
                 .code(LOAD_DS));
             Rig.level0("as it is pushed").set(Rig.A, 128 + wish).code(LOAD_DS).faults(13, 128).lies(Rig.STACK0 + 26, 128);
         }
+    }
+
+    private static void leavesEverything() {
+        Rig.sentence("An instruction that faults leaves everything as it was before it;");
+        // Each of them fails at its end, after it has changed what it can.
+        Rig.faulty(13, 0, () -> busy("JUMP without m").set(Rig.IP, 59).memory(Rig.CODE0 + 59, Rig.op(15, 0, 0), 9));
+        Rig.faulty(13, 8, () -> busy("CALL that has pushed").code(Rig.op(16, 0, 0), 9, 36).describe(9, 8, 9, 6, 0, true));
+        Rig.faulty(13, 0, () -> busy("CALL above the limit").code(Rig.op(16, 0, 0), 61, 4));
+        Rig.faulty(12, 16, () -> busy("RETURN that has entered").code(Rig.op(17, 0, 0), 0)
+            .memory(Rig.STACK0 + 30, 9, 15, 20, 19).describe(4, Rig.STACK3, 40, 2, 3, false));
+        Rig.faulty(13, 128, () -> busy("BACK that has popped FLAGS").code(BACK).memory(Rig.STACK0 + 30, 9, 128, 0));
+        Rig.faulty(13, 0, () -> busy("TRAP that has pushed").code(Rig.op(18, 0, 0), 15).describe(47, 4, 61, 10, 0, true));
+        Rig.faulty(13, 128, () -> busy("JUMP that has switched").code(Rig.op(15, 0, 0), 0, 24)
+            .memory(Rig.TASK6 + 7, 9, 0, 21, 22, 23, 24, 25, 15, 28, 128, 19));
+        Rig.faulty(13, 128, () -> busy("CALL that has switched").code(Rig.op(16, 0, 0), 0, 24)
+            .memory(Rig.TASK6 + 7, 9, 0, 21, 22, 23, 24, 25, 15, 28, 128, 19));
+        Rig.faulty(12, 0, () -> Rig.level3("CALL that has taken a stack").set(Rig.FLAGS, 3).describe(8, 36, 9, 6, 3, true)
+            .describe(9, Rig.CODE0, 60, 4, 1, true).describe(10, 590, 9, 2, 1, true).memory(Rig.TASK5 + 3, 3, 41)
+            .code(Rig.op(16, 0, 0), 0, 35));
+    }
+
+    /** Level 0 with something in every register and segment. */
+    private static Rig busy(String name) {
+        return Rig.level0(name).set(Rig.A, 11).set(Rig.B, 12).set(Rig.C, 13).set(Rig.X, 14).set(Rig.FLAGS, 3)
+            .force(Rig.DS, 28).force(Rig.ES, 31);
     }
 
     private static void eachByItsVector() {

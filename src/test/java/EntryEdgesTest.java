@@ -114,7 +114,7 @@ public final class EntryEdgesTest {
     }
 
     private static void offsets() {
-        Rig.sentence("13, 0 if n is above its limit. CS becomes s with the wish L, IP n.");
+        Rig.sentence("15 JUMP n, m: to offset n of selector m. 16 CALL n, m.");
         for (int limit : new int[] {0, 1, 600, 65534}) {
             far(JUMP, 0, limit, 32, 4, 0, true).describe(8, 590, limit, 4, 0, true).goes().state(Rig.IP, limit);
             far(JUMP, 0, 0, 32, 4, 0, true).describe(8, 590, limit, 4, 0, true).goes().state(Rig.IP, 0);
@@ -168,6 +168,8 @@ public final class EntryEdgesTest {
     }
 
     private static void gatesEnter() {
+        Rig.sentence("ENTERING code, by selector s at offset n, for a level L: 13, 0 if NONE; 13, s if WRONG or the kind is"
+            + " not 3 to 5;");
         for (int s = 0; s <= 3; s++) {
             int none = s;
             Rig.faulty(13, 0, () -> gate(JUMP, 0, 32, 0, true, none).describe(0, 590, 9, 4, 0, true));
@@ -208,6 +210,13 @@ public final class EntryEdgesTest {
             Rig.faulty(12, 0, () -> far(CALL, 0, 10, 32, its, 0, true).set(Rig.SP, 1));
             Rig.faulty(13, 0, () -> far(CALL, 0, 7, 32, its, 3, true).force(Rig.SS, 0));
         }
+        // But m itself is looked at before: the descriptors that its number ends in are code.
+        for (int m : new int[] {0, 3}) {
+            Rig.faulty(13, 0, () -> far(CALL, 0, 7, m, 4, 0, true).describe(0, 590, 9, 4, 0, true).set(Rig.SP, 0));
+            Rig.faulty(13, 0, () -> far(CALL, 3, 7, m, 4, 3, true).describe(0, 590, 9, 5, 0, true).set(Rig.SP, 0));
+        }
+        Rig.faulty(13, 256 + 32, () -> far(CALL, 0, 7, 256 + 32, 4, 0, true).set(Rig.SP, 0));
+        Rig.faulty(13, 256 + 32, () -> far(CALL, 3, 7, 256 + 35, 5, 0, true).set(Rig.SP, 0));
         // A JUMP pushes nothing.
         far(JUMP, 0, 7, 32, 4, 0, true).set(Rig.SP, 0).force(Rig.SS, 0).goes().state(Rig.SP, 0);
     }
@@ -352,11 +361,15 @@ public final class EntryEdgesTest {
     }
 
     private static void deepPushes() {
-        Rig.sentence("then what is to be pushed; then s is entered for K.");
+        Rig.sentence("6: a DEEP entry of FIRST at SECOND, with COUNT words and these two.");
         Rig rig = deep(36).memory(35, 3).memory(Rig.STACK3 + 30, 81, 82, 83).set(Rig.FLAGS, 7).force(Rig.DS, 28).goes();
         rig.state(Rig.SP, 1).lies(590, 0, 3, 15, 81, 82, 83, 30, 19, 0).state(Rig.FLAGS, 7).holds(Rig.DS, 28);
         rig.lies(Rig.STACK3 + 28, 0, 0, 81, 82, 83).holds(Rig.TR, 20).lies(22, 72);
         deep(36).force(Rig.SS, 0).goes().lies(594, 3, 15, 30, 0);
+        Rig.sentence("then what is to be pushed; then s is entered for K.");
+        // What is pushed lies on the table: the old SS, 19, as the word of the code's kind, which is not there then.
+        Rig.faulty(11, 36, () -> deep(36).describe(9, Rig.CODE0, 60, 4, 1, true).describe(10, 30, 10, 2, 1, true)
+            .memory(Rig.TASK5 + 3, 9, 41));
         // The old stack is also the new one's memory: a word is read before it is written over.
         deep(36).describe(10, Rig.STACK3 + 20, 20, 2, 0, true).memory(Rig.TASK5 + 1, 13, 40).memory(35, 1)
             .memory(Rig.STACK3 + 30, 81).goes().lies(Rig.STACK3 + 28, 3, 15, 81, 30, 19).state(Rig.SP, 8);
@@ -374,6 +387,11 @@ public final class EntryEdgesTest {
             Rig.faulty(13, 0, () -> gate(CALL, 1, 33, 1, true, 36).describe(9, 590, 8, its, 1, true));
             Rig.faulty(12, 0, () -> gate(CALL, 1, 33, 1, true, 36).describe(9, 590, 8, its, 1, true).set(Rig.SP, 1));
         }
+        // But NONE and WRONG come before all pushing.
+        Rig.faulty(13, 0, () -> gate(CALL, 0, 32, 0, true, 0).describe(0, 590, 9, 4, 0, true).set(Rig.SP, 0));
+        Rig.faulty(13, 128, () -> gate(CALL, 0, 32, 0, true, 128).describe(32, 590, 9, 4, 0, true).set(Rig.SP, 0));
+        Rig.faulty(13, 256 + 36, () -> gate(CALL, 0, 32, 0, true, 256 + 36).describe(9, 590, 9, 4, 0, true)
+            .set(Rig.SP, 0));
         // No words but the two, whatever COUNT is.
         gate(CALL, 1, 33, 1, true, 36).describe(9, 590, 9, 4, 1, true).memory(35, 7).goes().state(Rig.SP, 28)
             .lies(Rig.STACK3 + 27, 0, 3, 5, 0);

@@ -14,6 +14,7 @@ public final class InstructionEdgesTest {
         fault6First();
         stops();
         sets();
+        calculates();
         compares();
         goes();
         pushesAndPops();
@@ -35,7 +36,8 @@ public final class InstructionEdgesTest {
     }
 
     private static void badR() {
-        Rig.sentence("R, and Q where it is a register, are 0 .. 4; then perhaps words n, m.");
+        Rig.sentence("INSTRUCTIONS: a word 64 * OPERATION + 8 * R + Q (R, Q 0 .. 7; OPERATION up to 1023); R, and Q where it"
+            + " is a register, are 0 .. 4; then perhaps words n, m.");
         for (int operation = 0; operation <= MOST_OPERATION; operation++) {
             for (int r = 5; r <= 7; r++) {
                 int word = Rig.op(operation, r, 1);
@@ -113,6 +115,21 @@ public final class InstructionEdgesTest {
                     .state(Rig.FLAGS, 7);
                 Rig.level0("MOVE " + r).set(r, 5).set((r + 1) % 5, n).set(Rig.FLAGS, 7).code(Rig.op(2, r, (r + 1) % 5))
                     .goes().state(r, n).state((r + 1) % 5, n).state(Rig.FLAGS, 7);
+            }
+        }
+    }
+
+    private static void calculates() {
+        Rig.sentence("3 ADD: R + Q. 4 SUB: R - Q. 5 COMPARE: R - Q, which is not kept.");
+        for (int r = 0; r <= 4; r++) {
+            for (int q = 0; q <= 4; q++) {
+                int one = r == q ? 7 : 65533;
+                int sum = r == q ? 14 : 4;
+                int difference = r == q ? 0 : 65526;
+                Rig.level0("ADD " + r + ", " + q).set(r, one).set(q, 7).code(Rig.op(3, r, q)).goes().state(r, sum);
+                Rig.level0("SUB " + r + ", " + q).set(r, one).set(q, 7).code(Rig.op(4, r, q)).goes().state(r, difference);
+                Rig.level0("COMPARE " + r + ", " + q).set(r, one).set(q, 7).code(Rig.op(5, r, q)).goes().state(r, one)
+                    .state(q, 7).state(Rig.FLAGS, r == q ? Rig.Z : Rig.N);
             }
         }
     }

@@ -11,6 +11,7 @@ public final class LoadEdgesTest {
         stackOfNone();
         stackOfWrong();
         stackOfEveryKind();
+        everyRegister();
         leastAndGreatest();
         tasks();
         tasksRefused();
@@ -26,7 +27,7 @@ public final class LoadEdgesTest {
     }
 
     private static void dataOfNone() {
-        Rig.sentence("DS, ES: NONE: the segment has none.");
+        Rig.sentence("LOADING a selector s (codes are s): DS, ES: NONE: the segment has none.");
         for (int level = 0; level <= 3; level++) {
             for (int q = Rig.DS; q <= Rig.ES; q++) {
                 for (int s : NONES) {
@@ -128,6 +129,16 @@ public final class LoadEdgesTest {
         } else {
             load(level, Rig.SS, s, kind, rank, true).raises(13, 32);
             load(level, Rig.SS, s, kind, rank, false).raises(13, 32);
+        }
+    }
+
+    private static void everyRegister() {
+        Rig.sentence("13 LOAD: segment Q (1 .. 3) from selector R.");
+        for (int q = Rig.DS; q <= Rig.SS; q++) {
+            for (int r = 0; r <= 4; r++) {
+                load(0, q, 128, 2, 0, true).set(r, 32).code(Rig.op(13, r, q)).goes().holds(q, 32, 590, 9, 2, 0)
+                    .state(r, 32).holds(Rig.CS, 4).holds(Rig.TR, 20);
+            }
         }
     }
 

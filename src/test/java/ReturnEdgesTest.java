@@ -86,6 +86,9 @@ public final class ReturnEdgesTest {
     }
 
     private static void entersWithin() {
+        Rig.sentence("ENTERING code, by selector s at offset n, for a level L: 13, 0 if NONE; 13, s if WRONG or the kind is"
+            + " not 3 to 5; 13, s if the kind is 5 and its rank is above L, or else its rank is not L; 11, s if not there;"
+            + " 13, 0 if n is above its limit. CS becomes s with the wish L, IP n.");
         for (int n = -1; n <= 0; n++) {
             int dropped = n;
             Rig.faulty(13, 0, () -> comeBack(dropped, 0, 0, 5, 40).describe(0, 200, 9, 4, 0, true));

@@ -233,11 +233,23 @@ public final class SwitchEdgesTest {
     }
 
     private static void nests() {
+        Rig.sentence("7, 9: a switch that NESTS.");
+        for (int flags = 0; flags <= 3; flags++) {
+            direct(CALL, 3, 0, 3, true).memory(Rig.TASK6 + 8, flags).goes().state(Rig.FLAGS, 4 + flags).lies(22, 72)
+                .lies(Rig.TASK6, 20);
+            to(CALL, 24).memory(Rig.TASK6 + 8, flags).goes().state(Rig.FLAGS, 4 + flags).lies(22, 72).lies(Rig.TASK6, 20);
+            direct(JUMP, 3, 0, 3, true).memory(Rig.TASK6 + 8, flags).goes().state(Rig.FLAGS, flags).lies(22, 71);
+        }
         Rig.sentence("if it nests, word 0 of the new task becomes the selector that TR had.");
         for (int wish = 0; wish <= 3; wish++) {
             to(CALL, 24).force(Rig.TR, 20 + wish).goes().lies(Rig.TASK6, 20 + wish).lies(Rig.TASK5, 0);
         }
         to(CALL, 24).describe(31, Rig.TASK5, 40, 8, 0, true).force(Rig.TR, 127).goes().lies(Rig.TASK6, 127);
+        // Before CS is entered: word 0 lies on the third word of its descriptor, and 84 is code of rank 1 that is there.
+        Rig.level0("word 0 on the table").describe(6, 38, 17, 7, 0, true).describe(9, Rig.CODE0, 60, 0, 0, false)
+            .describe(21, Rig.TASK5, 40, 8, 0, true).force(Rig.TR, 84).describe(15, 590, 9, 2, 1, true)
+            .memory(38 + 7, 33, 2, 21, 22, 23, 24, 25, 37, 0, 0, 61).code(CALL, 0, 24).goes()
+            .holds(Rig.CS, 37, 200, 60, 4, 1).holds(Rig.SS, 61).lies(38, 84);
         to(JUMP, 24).goes().lies(Rig.TASK6, 999);
         to(BACK, 24).goes().lies(Rig.TASK6, 999);
     }

@@ -23,6 +23,10 @@ public final class WordEdgesTest {
         limits();
         counts();
         segmentsStayAsLoaded();
+        registers();
+        flags();
+        levels();
+        kinds();
         Rig.finish();
     }
 
@@ -298,5 +302,68 @@ public final class WordEdgesTest {
         Rig.level0("none is loaded").describe(8, 600, 5, 2, 3, true).force(Rig.DS, 32).set(Rig.A, 3).code(LOAD_DS).goes()
             .holds(Rig.DS, 0, 0, 0, 0, 0);
         Rig.level0("the level after a jump").describe(8, 600, 5, 5, 0, true).code(JUMP, 3, 35).goes().state(Rig.LEVEL, 0);
+    }
+
+    private static void registers() {
+        Rig.sentence("REGISTERS: 0 A, 1 B, 2 C, 3 X, 4 SP; IP; FLAGS: Z 1, N 2, NESTED 4.");
+        for (int r = 0; r <= 4; r++) {
+            Rig rig = Rig.level0("SET " + r).set(Rig.SP, 0).code(Rig.op(1, r, 0), 65535).goes();
+            for (int other = 0; other <= 4; other++) {
+                rig.state(other, other == r ? 65535 : 0);
+            }
+        }
+        // 3 is X, as READ uses it, and 4 is SP, as PUSH does.
+        Rig.level0("X").describe(8, 600, 5, 1, 3, true).force(Rig.DS, 32).memory(602, 44).set(3, 2).code(READ_B, 0).goes()
+            .state(1, 44);
+        Rig.level0("SP").set(4, 20).set(1, 44).code(PUSH_B).goes().state(4, 19).lies(Rig.STACK0 + 19, 44);
+    }
+
+    private static void flags() {
+        Rig.level0("Z").set(Rig.A, 5).code(Rig.op(4, 0, 0)).goes().state(Rig.FLAGS, 1);
+        Rig.level0("N").set(Rig.A, 32768).code(Rig.op(3, 0, 1)).goes().state(Rig.FLAGS, 2);
+        Rig.level0("NESTED").memory(Rig.TASK6 + 7, 9, 0, 0, 0, 0, 0, 30, 4, 0, 0, 8).code(CALL, 0, 24).goes()
+            .state(Rig.FLAGS, 4);
+    }
+
+    private static void levels() {
+        Rig.sentence("The LEVEL is the wish of CS's selector; 0 is the most trusted.");
+        // The rank of the code does not count.
+        for (int level = 0; level <= 3; level++) {
+            for (int rank = 0; rank <= 3; rank++) {
+                Rig rig = Rig.level0("wish " + level + ", rank " + rank).describe(8, Rig.CODE0, 60, 4, rank, true)
+                    .force(Rig.CS, 32 + level).state(Rig.LEVEL, level).code(0);
+                if (level == 0) {
+                    rig.goes().state(Rig.HALT, 1);
+                } else {
+                    rig.faults(13, 0);
+                }
+            }
+        }
+        Rig.level3("without CS").force(Rig.CS, 3).state(Rig.LEVEL, 0);
+    }
+
+    private static void kinds() {
+        Rig.sentence("KINDS: 1 DATA, 2 DATA that may be written, 3 CODE, 4 CODE that may be read, 5 EASY code (may be read),"
+            + " 6 a GATE, 7 a free TASK, 8 a BUSY one, 9 a TASK GATE, 10 a TRAP GATE.");
+        for (int kind = 0; kind <= 15; kind++) {
+            may(".LL.LL..........".charAt(kind) == 'L', kind, 32, LOAD_DS);
+            may("...JJJJJ.J......".charAt(kind) == 'J', kind, 32, JUMP, 9, 32);
+            may("...JJJJJ.J......".charAt(kind) == 'J', kind, 32, CALL, 9, 32);
+            may(".........TT.....".charAt(kind) == 'T', kind, 188, TRAP, 15);
+            may(".......T........".charAt(kind) == 'T', kind, 32, Rig.op(20, 0, 0));
+        }
+    }
+
+    /** Descriptor 8 (and vector 15) of this kind lead to task 6 or to code 1 where they are gates. */
+    private static void may(boolean may, int kind, int code, int... words) {
+        int first = kind == 6 || kind == 10 ? 4 : kind == 9 ? 24 : kind == 7 ? Rig.TASK6 : 590;
+        Rig rig = Rig.level0("kind " + kind + " by operation " + words[0] / 64).describe(8, first, 20, kind, 0, true)
+            .describe(47, first, 20, kind, 0, true).set(Rig.A, 32).code(words)
+            .memory(Rig.TASK6 + 7, 9, 0, 0, 0, 0, 0, 30, 4, 0, 0, 8);
+        if (may) {
+            rig.goes();
+        } else {
+            rig.faults(13, code);
+        }
     }
 }
